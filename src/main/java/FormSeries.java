@@ -167,7 +167,7 @@ public final class FormSeries {
         }
         // BASIS i of a WEIGHT is D times BASIS i - 1 of the WEIGHT less 12, so the PARTS move down by one.
         bases.findParts(forms[f].weight, forms[f].numbers, parts);
-        for (int i = 1; i < TOP_SIZE; i++) {
+        for (int i = 1; i < bases.sizeOf(forms[f].weight); i++) {
             parts[i - 1] = parts[i];
         }
         bases.join(weight, parts, forms[held].numbers);
@@ -659,11 +659,8 @@ public final class FormSeries {
             }
         }
 
-        /** The PARTS of the FORM that has these numbers at places below SIZE; 0 at the rest of the row of parts. */
+        /** The PARTS of the FORM that has these numbers at places below SIZE: SIZE of them, what is behind stays. */
         void findParts(int weight, long[] numbers, long[] parts) {
-            for (int i = 0; i < TOP_SIZE; i++) {
-                parts[i] = 0;
-            }
             for (int i = 0; i < sizeOf(weight); i++) {
                 long left = numbers[i];
                 for (int j = 0; j < i; j++) {
