@@ -526,8 +526,14 @@ public final class FormSeries {
             }
         }
 
+        static long[] newSums(long factor, int power) {
+            long[] answer = new long[PLACES];
+            putSums(factor, power, answer);
+            return answer;
+        }
+
         /** D: the product of all 1 - q^n to the 24, moved on by one place. */
-        static void putD(long[] answer) {
+        static long[] newD() {
             long[] once = new long[PLACES];
             putOne(once);
             for (int n = 1; n < PLACES; n++) {
@@ -535,9 +541,11 @@ public final class FormSeries {
                     once[i] = Rests.rest(once[i] - once[i - n]);
                 }
             }
+            long[] answer = new long[PLACES];
             raise(once, 24, answer);
             System.arraycopy(answer, 0, answer, 1, PLACES - 1);
             answer[0] = 0;
+            return answer;
         }
 
         static int leastPlace(long[] a) {
@@ -596,20 +604,16 @@ public final class FormSeries {
 
     /** E2, D, and the BASIS of each WEIGHT, made when a call first needs it: most runs need few. */
     private static final class Bases {
-        final long[] e2 = new long[PLACES];
-        final long[] d = new long[PLACES];
-        private final long[] e4 = new long[PLACES];
-        private final long[] e6 = new long[PLACES];
+        final long[] e2 = Series.newSums(Rests.rest(-24), 1);
+        final long[] d = Series.newD();
+        private final long[] e4 = Series.newSums(240, 3);
+        private final long[] e6 = Series.newSums(Rests.rest(-504), 5);
         private final int[] sizes = new int[TOP_WEIGHT / 2 + 1];
         private final int[] firsts = new int[TOP_WEIGHT / 2 + 1];
         private final long[][] rows;
         private int nextWeight;
 
         Bases() {
-            Series.putSums(Rests.rest(-24), 1, e2);
-            Series.putSums(240, 3, e4);
-            Series.putSums(Rests.rest(-504), 5, e6);
-            Series.putD(d);
             int all = 0;
             for (int half = 0; half < sizes.length; half++) {
                 firsts[half] = all;

@@ -24,6 +24,8 @@ public final class LanguageTest {
     private static final String[] RULED_OUT = {"\\bthrow\\b", "\\btry\\b", "\\bcatch\\b", "\\bsynchronized\\b", "\\bassert\\b",
         "->", "::", "\\bimport\\b", "\\bpackage\\b", "\\bprotected\\b", "Exact\\b", "\\bstatic\\s*\\{", "\\bwhile\\s*\\(true\\)",
         "for\\s*\\(;;", "hashCode", "toString", "[^\\x00-\\x7f]", "@"};
+    private static final String LIBRARY = "(Math|Integer|Long)\\.(compare|max|min|abs|bitCount|floorDiv|floorMod)"
+        + "|System\\.arraycopy|Arrays\\.(copyOf|copyOfRange|fill)|List\\.of";
     private static int wrong = 0;
 
     private static void check(boolean holds, String what) {
@@ -36,7 +38,10 @@ public final class LanguageTest {
     public static void main(String[] args) throws Exception {
         face();
         insides();
-        words(Files.readString(Path.of(SOURCE)));
+        String source = Files.readString(Path.of(SOURCE));
+        words(source);
+        library(bare(source));
+        constructors(bare(source));
         room();
         System.out.println(wrong == 0 ? "the rules are kept" : wrong + " rules are not kept");
         if (wrong != 0) System.exit(1);
@@ -95,8 +100,50 @@ public final class LanguageTest {
         check(own <= 20, type + " has at most some twenty fields");
     }
 
+    private static String bare(String source) {
+        return source.replaceAll("(?s)/\\*.*?\\*/", "").replaceAll("//[^\n]*", "");
+    }
+
+    /** Rule 4: of the library only what stands there. */
+    private static void library(String code) {
+        Set<String> own = new TreeSet<>();
+        for (Class<?> type : FormSeries.class.getDeclaredClasses()) own.add(type.getSimpleName());
+        Matcher m = Pattern.compile("\\b([A-Z][a-z]\\w*)\\.(\\w+)").matcher(code);
+        while (m.find()) {
+            check(own.contains(m.group(1)) || m.group().matches(LIBRARY), m.group() + " stands in LANGUAGE.md");
+        }
+    }
+
+    /** Rule 12: a constructor hands out nothing of the object that it makes, neither itself nor what a field holds. */
+    private static void constructors(String code) {
+        Set<String> kept = new TreeSet<>(Set.of("this"));
+        keptIn(FormSeries.class, kept);
+        String names = "FormSeries";
+        for (Class<?> type : FormSeries.class.getDeclaredClasses()) {
+            keptIn(type, kept);
+            names += "|" + type.getSimpleName();
+        }
+        int found = 0;
+        Matcher made = Pattern.compile("(?m)^( +)(public |private )?(" + names + ")\\([^)]*\\) \\{\n(?s:.*?)\n\\1\\}"
+            + "|^ {4,8}(private )?final [^=\n]*=[^;]*;").matcher(code);
+        while (made.find()) {
+            found += made.group(3) == null ? 0 : 1;
+            for (String field : kept) {
+                check(!Pattern.compile("[(,]\\s*(this\\.)?" + field + "\\s*[,)]").matcher(made.group()).find(),
+                    field + " is not handed out in: " + made.group().strip());
+            }
+        }
+        check(found > 0, "the constructors were found");
+    }
+
+    private static void keptIn(Class<?> type, Set<String> kept) {
+        for (Field f : type.getDeclaredFields()) {
+            if (!Modifier.isStatic(f.getModifiers()) && !f.getType().isPrimitive()) kept.add(f.getName());
+        }
+    }
+
     private static void words(String source) {
-        String code = source.replaceAll("(?s)/\\*.*?\\*/", "").replaceAll("//[^\n]*", "");
+        String code = bare(source);
         for (String word : RULED_OUT) {
             Matcher m = Pattern.compile(word).matcher(code);
             check(!m.find(), "no " + word + " in the program");
